@@ -1,0 +1,27 @@
+/** Compares answers with those that are due, prints the wrong ones, and ends a test. */
+final class Due {
+    private static int compared = 0;
+    private static int wrong = 0;
+
+    private Due() {
+    }
+
+    static void due(String call, long got, long want) {
+        compared++;
+        if (got != want) {
+            wrong++;
+            System.out.println(call + " answered " + got + ", due is " + want);
+        }
+    }
+
+    static void due(String call, boolean got, boolean want) {
+        due(call, got ? 1L : 0L, want ? 1L : 0L);
+    }
+
+    static void finish() {
+        System.out.println(compared + " answers compared, " + wrong + " wrong");
+        if (wrong != 0 || compared == 0) {
+            System.exit(1);
+        }
+    }
+}
