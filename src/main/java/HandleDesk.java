@@ -99,7 +99,7 @@ public final class HandleDesk {
         joinEnds(row, reader, writer);
         setName(process, reading, reader);
         setName(process, writing, writer);
-        return reading + 16 * writing;
+        return reading + DESCRIPTORS * writing;
     }
 
     public int again(int process, int d) {

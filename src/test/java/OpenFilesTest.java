@@ -14,6 +14,7 @@ public final class OpenFilesTest {
         promise4AgainRefuses();
         promise5Close();
         promise5CloseRefuses();
+        promise5NoDescriptorOfTheNextProcess();
         promise6CloseAll();
         promise6CloseAllOfSharedFiles();
         promise6CloseAllClosesPipes();
@@ -131,6 +132,8 @@ public final class OpenFilesTest {
         Due.due("again: one place", x.about(0, 1, 4), 44);
         x.close(0, 2);
         Due.due("again: the first may close", x.about(0, 1, 5), 2);
+        x.close(0, 0);
+        Due.due("again takes descriptor 0 when it is free", x.again(0, 1), 0);
         for (int i = 0; i < 32; i++) {
             x.open(5 + i / 8, 2, 1, 1);
         }
@@ -195,6 +198,23 @@ public final class OpenFilesTest {
         Due.due("refusals close nothing", x.about(0, 0, 5), 1);
         Due.due("close", x.close(0, 0), 7);
         Due.due("close twice", x.close(0, 0), NONE);
+    }
+
+    private static void promise5NoDescriptorOfTheNextProcess() {
+        HandleDesk x = new HandleDesk();
+        for (int process = 0; process < 15; process++) {
+            x.open(process, 2, 7, 3);
+        }
+        for (int process = 0; process < 15; process++) {
+            Due.due("about(" + process + ", 16, 0)", x.about(process, 16, 0), NONE);
+            Due.due("again(" + process + ", 16)", x.again(process, 16), NONE);
+            Due.due("move(" + process + ", 16, 1)", x.move(process, 16, 1), false);
+            Due.due("close(" + process + ", 16)", x.close(process, 16), NONE);
+            Due.due("close(" + process + ", -16)", x.close(process, -16), NONE);
+        }
+        for (int process = 0; process < 15; process++) {
+            Due.due("still open in " + process, x.about(process, 0, 5), 1);
+        }
     }
 
     private static void promise6CloseAll() {

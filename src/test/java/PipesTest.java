@@ -27,6 +27,8 @@ public final class PipesTest {
             Due.due("pipe(" + process + ")", x.pipe(process), NONE);
         }
         Due.due("pipe", x.pipe(0), 0 + 16 * 1);
+        Due.due("the first file reads", x.about(0, 0, 6), 0);
+        Due.due("the second file writes", x.about(0, 1, 6), 1);
         Due.due("second pipe", x.pipe(0), 2 + 16 * 3);
         Due.due("pipe in the last process", x.pipe(14), 0 + 16 * 1);
         x.close(0, 1);
