@@ -9,9 +9,6 @@ public final class ConsoleTest {
         promise14EveryByte();
         promise14TakeBack();
         promise14TakeBackStopsAtTheLine();
-        promise14FullConsole();
-        promise14FullConsoleIsDone();
-        promise14Refuses();
         promise15Read();
         promise15ReadEnd();
         promise15ReadRound();
@@ -19,7 +16,6 @@ public final class ConsoleTest {
         promise17Show();
         promise18Shown();
         promise18ShownOfTyped();
-        promise18ShownForgets();
         promise19Count();
         Due.finish();
     }
@@ -27,12 +23,6 @@ public final class ConsoleTest {
     private static void typeAll(HandleDesk x, int... bytes) {
         for (int b : bytes) {
             Due.due("type(" + b + ")", x.type(b), true);
-        }
-    }
-
-    private static void typeMany(HandleDesk x, int n, int b) {
-        for (int i = 0; i < n; i++) {
-            Due.due("type(" + b + ") number " + i, x.type(b), true);
         }
     }
 
@@ -101,61 +91,6 @@ public final class ConsoleTest {
         typeAll(x, 99, 4, 8, 21, 127);
         Due.due("a line done by 4 stays", x.waiting(0), 4);
         readAll(x, "what was done", 97, 10, 99, END, WAIT);
-    }
-
-    private static void promise14FullConsole() {
-        HandleDesk x = new HandleDesk();
-        typeMany(x, 127, 65);
-        Due.due("127 are not done", x.waiting(0), 0);
-        typeAll(x, 8);
-        Due.due("one of 127 is taken back", x.waiting(1), 126);
-        typeAll(x, 66, 67);
-        Due.due("128 are done", x.waiting(0), 128);
-        Due.due("128 wait", x.waiting(1), 128);
-        int before = x.count();
-        for (int b : new int[] {0, 65, 10, 13, 4, 255}) {
-            Due.due("type(" + b + ") with 128", x.type(b), false);
-        }
-        Due.due("a refused byte is not shown", x.count(), before);
-        for (int b : new int[] {8, 127, 21}) {
-            Due.due("type(" + b + ") with 128 comes not to the line", x.type(b), true);
-        }
-        Due.due("and takes nothing back", x.waiting(1), 128);
-        Due.due("and shows nothing", x.count(), before);
-    }
-
-    private static void promise14FullConsoleIsDone() {
-        HandleDesk x = new HandleDesk();
-        typeMany(x, 126, 65);
-        typeAll(x, 10, 66);
-        Due.due("a second line done as 128 wait", x.waiting(0), 128);
-        Due.due("read one", x.read(true), 65);
-        typeAll(x, 67);
-        Due.due("done at once, as 128 wait again", x.waiting(0), 128);
-        Due.due("full again", x.type(68), false);
-        Due.due("read two: 1", x.read(true), 65);
-        Due.due("read two: 2", x.read(false), 65);
-        typeAll(x, 69);
-        Due.due("127 wait, the line is not done", x.waiting(0), 126);
-        typeAll(x, 8, 70, 71);
-        Due.due("done again", x.waiting(0), 128);
-        for (int i = 0; i < 123; i++) {
-            Due.due("the rest", x.read(true), 65);
-        }
-        readAll(x, "the last", 10, 66, 67, 70, 71, WAIT);
-    }
-
-    private static void promise14Refuses() {
-        HandleDesk x = new HandleDesk();
-        for (int b : new int[] {-1, 256, 264, 266, 260, Integer.MIN_VALUE, Integer.MAX_VALUE}) {
-            Due.due("type(" + b + ")", x.type(b), false);
-        }
-        Due.due("nothing waits", x.waiting(1), 0);
-        Due.due("nothing is shown", x.count(), 0);
-        typeAll(x, 97);
-        Due.due("type(264) is no 8", x.type(264), false);
-        Due.due("type(-248) is no 8", x.type(-248), false);
-        Due.due("the line stays", x.waiting(1), 1);
     }
 
     private static void promise15Read() {
@@ -243,26 +178,6 @@ public final class ConsoleTest {
         typeAll(x, 4, 99, 127);
         x.read(true);
         shownAll(x, "typed", 97, 10, 98, 7, 4, 99, 8, 32, 8);
-    }
-
-    // So many bytes take more calls than an object is promised for; the words hold there all the same.
-    private static void promise18ShownForgets() {
-        HandleDesk x = new HandleDesk();
-        for (int i = 0; i < 4096; i++) {
-            x.show(i * 11);
-        }
-        Due.due("4095 behind it", x.shown(0), 0);
-        x.show(1);
-        Due.due("4096 behind it", x.shown(0), NONE);
-        Due.due("4095 behind the next", x.shown(1), 11);
-        Due.due("the newest", x.shown(4096), 1);
-        Due.due("none yet", x.shown(4097), NONE);
-        for (int i = 0; i < 5000; i++) {
-            x.show(i);
-        }
-        Due.due("count of all", x.count(), 9097);
-        Due.due("the oldest kept", x.shown(9097 - 4096), (9097 - 4096 - 4097) & 255);
-        Due.due("the youngest gone", x.shown(9097 - 4097), NONE);
     }
 
     private static void promise19Count() {

@@ -1,51 +1,21 @@
 /** Promises 1, 2 and 4 to 10: descriptors and the open files that they name. */
 public final class OpenFilesTest {
     private static final int NONE = HandleDesk.NONE;
-    private static final int[] NO_PROCESS = {-1, 15, 16, Integer.MIN_VALUE, Integer.MAX_VALUE};
-    private static final int[] NO_DESCRIPTOR = {-1, 16, 17, Integer.MIN_VALUE, Integer.MAX_VALUE};
 
     public static void main(String[] args) {
-        promise1NewObject();
         promise1ObjectsAreApart();
         promise2Open();
-        promise2OpenRefuses();
-        promise2OpenFileLimit();
         promise4Again();
-        promise4AgainRefuses();
         promise5Close();
-        promise5CloseRefuses();
-        promise5NoDescriptorOfTheNextProcess();
         promise6CloseAll();
         promise6CloseAllOfSharedFiles();
         promise6CloseAllClosesPipes();
         promise7Left();
-        promise7LeftOfRefusedCloseAll();
         promise8Copy();
-        promise8CopyRefuses();
         promise9About();
         promise9AboutLeastFreeFile();
-        promise9AboutRefuses();
         promise10Move();
-        promise10MoveRefuses();
         Due.finish();
-    }
-
-    private static void promise1NewObject() {
-        HandleDesk x = new HandleDesk();
-        for (int process = 0; process < 15; process++) {
-            for (int d = 0; d < 16; d++) {
-                Due.due("new about(" + process + ", " + d + ", 0)", x.about(process, d, 0), NONE);
-            }
-        }
-        for (int k = 0; k < 8; k++) {
-            Due.due("new ends(" + k + ", 0)", x.ends(k, 0), NONE);
-        }
-        Due.due("new waiting(0)", x.waiting(0), 0);
-        Due.due("new waiting(1)", x.waiting(1), 0);
-        Due.due("new read(true)", x.read(true), HandleDesk.WAIT);
-        Due.due("new count()", x.count(), 0);
-        Due.due("new shown(0)", x.shown(0), NONE);
-        Due.due("new left(0)", x.left(0), 0);
     }
 
     private static void promise1ObjectsAreApart() {
@@ -82,40 +52,6 @@ public final class OpenFilesTest {
         Due.due("open goes on behind", x.open(0, 2, 1, 1), 6);
     }
 
-    private static void promise2OpenRefuses() {
-        HandleDesk x = new HandleDesk();
-        for (int process : NO_PROCESS) {
-            Due.due("open(" + process + ", ..)", x.open(process, 2, 1, 1), NONE);
-        }
-        for (int kind : new int[] {0, 1, 4, -1, -2, 6, Integer.MIN_VALUE, Integer.MAX_VALUE}) {
-            Due.due("open kind " + kind, x.open(0, kind, 1, 1), NONE);
-        }
-        for (int how : new int[] {0, 4, 5, -1, -2, -3, Integer.MIN_VALUE, Integer.MAX_VALUE}) {
-            Due.due("open how " + how, x.open(0, 2, 1, how), NONE);
-            Due.due("open console how " + how, x.open(0, 3, 1, how), NONE);
-        }
-        Due.due("refusals open nothing", x.about(0, 0, 0), NONE);
-        for (int d = 0; d < 16; d++) {
-            Due.due("open number " + d, x.open(3, 2, 1, 1), d);
-        }
-        Due.due("open with no free descriptor", x.open(3, 2, 1, 1), NONE);
-        Due.due("open elsewhere then", x.open(4, 2, 1, 1), 0);
-        Due.due("a refused open takes no open file", x.about(4, 0, 6), 16);
-    }
-
-    private static void promise2OpenFileLimit() {
-        HandleDesk x = new HandleDesk();
-        for (int i = 0; i < 32; i++) {
-            Due.due("open file " + i, x.open(i / 16, 2, i, 3), i % 16);
-        }
-        Due.due("open with 32 files", x.open(2, 2, 1, 1), NONE);
-        Due.due("open the console with 32 files", x.open(2, 3, 1, 1), NONE);
-        Due.due("nothing opened then", x.about(2, 0, 0), NONE);
-        x.close(0, 5);
-        Due.due("open with 31 files", x.open(2, 2, 1, 1), 0);
-        Due.due("open with 32 files again", x.open(2, 2, 1, 1), NONE);
-    }
-
     private static void promise4Again() {
         HandleDesk x = new HandleDesk();
         x.open(0, 2, 7, 3);
@@ -138,24 +74,6 @@ public final class OpenFilesTest {
             x.open(5 + i / 8, 2, 1, 1);
         }
         Due.due("again needs no new file", x.again(0, 0), 2);
-    }
-
-    private static void promise4AgainRefuses() {
-        HandleDesk x = new HandleDesk();
-        x.open(0, 2, 7, 3);
-        for (int process : NO_PROCESS) {
-            Due.due("again(" + process + ", 0)", x.again(process, 0), NONE);
-        }
-        for (int d : NO_DESCRIPTOR) {
-            Due.due("again(0, " + d + ")", x.again(0, d), NONE);
-        }
-        Due.due("again of a free one", x.again(0, 1), NONE);
-        Due.due("again in another process", x.again(1, 0), NONE);
-        for (int d = 1; d < 16; d++) {
-            Due.due("again up to " + d, x.again(0, 0), d);
-        }
-        Due.due("again with none free", x.again(0, 0), NONE);
-        Due.due("names of a full row", x.about(0, 15, 5), 16);
     }
 
     private static void promise5Close() {
@@ -184,44 +102,8 @@ public final class OpenFilesTest {
         Due.due("two files for an inode: the second", x.close(14, 1), 6);
     }
 
-    private static void promise5CloseRefuses() {
-        HandleDesk x = new HandleDesk();
-        x.open(0, 2, 7, 3);
-        for (int process : NO_PROCESS) {
-            Due.due("close(" + process + ", 0)", x.close(process, 0), NONE);
-        }
-        for (int d : NO_DESCRIPTOR) {
-            Due.due("close(0, " + d + ")", x.close(0, d), NONE);
-            Due.due("close(1, " + d + ")", x.close(1, d), NONE);
-        }
-        Due.due("close a free one", x.close(0, 1), NONE);
-        Due.due("refusals close nothing", x.about(0, 0, 5), 1);
-        Due.due("close", x.close(0, 0), 7);
-        Due.due("close twice", x.close(0, 0), NONE);
-    }
-
-    private static void promise5NoDescriptorOfTheNextProcess() {
-        HandleDesk x = new HandleDesk();
-        for (int process = 0; process < 15; process++) {
-            x.open(process, 2, 7, 3);
-        }
-        for (int process = 0; process < 15; process++) {
-            Due.due("about(" + process + ", 16, 0)", x.about(process, 16, 0), NONE);
-            Due.due("again(" + process + ", 16)", x.again(process, 16), NONE);
-            Due.due("move(" + process + ", 16, 1)", x.move(process, 16, 1), false);
-            Due.due("close(" + process + ", 16)", x.close(process, 16), NONE);
-            Due.due("close(" + process + ", -16)", x.close(process, -16), NONE);
-        }
-        for (int process = 0; process < 15; process++) {
-            Due.due("still open in " + process, x.about(process, 0, 5), 1);
-        }
-    }
-
     private static void promise6CloseAll() {
         HandleDesk x = new HandleDesk();
-        for (int process : NO_PROCESS) {
-            Due.due("closeAll(" + process + ")", x.closeAll(process), NONE);
-        }
         Due.due("closeAll of nothing", x.closeAll(0), 0);
         x.open(0, 2, 5, 1);
         x.open(0, 3, 5, 1);
@@ -301,14 +183,6 @@ public final class OpenFilesTest {
         Due.due("the latest closeAll left none", x.left(0), 0);
     }
 
-    private static void promise7LeftOfRefusedCloseAll() {
-        HandleDesk x = new HandleDesk();
-        x.open(0, 2, 11, 1);
-        x.closeAll(0);
-        x.closeAll(15);
-        Due.due("a refused closeAll closes nothing and changes no left", x.left(0), 11);
-    }
-
     private static void promise8Copy() {
         HandleDesk x = new HandleDesk();
         Due.due("copy of nothing", x.copy(0, 1), 0);
@@ -328,26 +202,6 @@ public final class OpenFilesTest {
         x.put(14, 3, 9);
         Due.due("copy: one pipe", x.take(0, 2), 9);
         Due.due("the other way is refused", x.copy(0, 14), NONE);
-    }
-
-    private static void promise8CopyRefuses() {
-        HandleDesk x = new HandleDesk();
-        x.open(0, 2, 7, 3);
-        x.open(1, 2, 8, 3);
-        x.open(1, 2, 9, 3);
-        x.close(1, 0);
-        for (int process : NO_PROCESS) {
-            Due.due("copy(" + process + ", 0)", x.copy(process, 0), NONE);
-            Due.due("copy(2, " + process + ")", x.copy(2, process), NONE);
-            Due.due("copy(" + process + ", " + process + ")", x.copy(process, process), NONE);
-        }
-        Due.due("copy to itself", x.copy(0, 0), NONE);
-        Due.due("copy to itself, none used", x.copy(3, 3), NONE);
-        Due.due("copy to one with a used descriptor", x.copy(1, 0), NONE);
-        Due.due("copy of nothing to one with a used descriptor", x.copy(1, 4), NONE);
-        Due.due("nothing changed", x.about(1, 0, 0), NONE);
-        Due.due("nothing changed there", x.about(1, 1, 1), 9);
-        Due.due("no name more", x.about(0, 0, 5), 1);
     }
 
     private static void promise9About() {
@@ -406,24 +260,6 @@ public final class OpenFilesTest {
         Due.due("and the pipe's end stays", x.ends(0, 2), 1);
     }
 
-    private static void promise9AboutRefuses() {
-        HandleDesk x = new HandleDesk();
-        x.open(0, 2, 7, 3);
-        for (int what : new int[] {-1, 7, 8, Integer.MIN_VALUE, Integer.MAX_VALUE}) {
-            Due.due("about what " + what, x.about(0, 0, what), NONE);
-        }
-        for (int what = 0; what < 7; what++) {
-            for (int process : NO_PROCESS) {
-                Due.due("about(" + process + ", 0, " + what + ")", x.about(process, 0, what), NONE);
-            }
-            for (int d : NO_DESCRIPTOR) {
-                Due.due("about(0, " + d + ", " + what + ")", x.about(0, d, what), NONE);
-                Due.due("about(1, " + d + ", " + what + ")", x.about(1, d, what), NONE);
-            }
-            Due.due("about a free one, " + what, x.about(0, 1, what), NONE);
-        }
-    }
-
     private static void promise10Move() {
         HandleDesk x = new HandleDesk();
         x.open(0, 2, 7, 1);
@@ -435,27 +271,5 @@ public final class OpenFilesTest {
         Due.due("moved to the largest", x.about(0, 0, 4), Integer.MAX_VALUE);
         Due.due("move to 0", x.move(0, 0, 0), true);
         Due.due("moved to 0", x.about(0, 0, 4), 0);
-    }
-
-    private static void promise10MoveRefuses() {
-        HandleDesk x = new HandleDesk();
-        x.open(0, 2, 7, 3);
-        x.open(0, 3, 7, 3);
-        x.pipe(0);
-        x.move(0, 0, 5);
-        Due.due("move below 0", x.move(0, 0, -1), false);
-        Due.due("move far below 0", x.move(0, 0, Integer.MIN_VALUE), false);
-        Due.due("place stays", x.about(0, 0, 4), 5);
-        for (int d = 1; d < 4; d++) {
-            Due.due("move another kind, " + d, x.move(0, d, 1), false);
-            Due.due("its place stays, " + d, x.about(0, d, 4), 0);
-        }
-        Due.due("move a free one", x.move(0, 4, 1), false);
-        for (int process : NO_PROCESS) {
-            Due.due("move(" + process + ", 0, 1)", x.move(process, 0, 1), false);
-        }
-        for (int d : NO_DESCRIPTOR) {
-            Due.due("move(0, " + d + ", 1)", x.move(0, d, 1), false);
-        }
     }
 }

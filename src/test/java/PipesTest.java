@@ -1,31 +1,19 @@
 /** Promises 3 and 11 to 13: pipes and their ends. */
 public final class PipesTest {
     private static final int NONE = HandleDesk.NONE;
-    private static final int[] NO_PROCESS = {-1, 15, 16, Integer.MIN_VALUE, Integer.MAX_VALUE};
-    private static final int[] NO_DESCRIPTOR = {-1, 16, 17, Integer.MIN_VALUE, Integer.MAX_VALUE};
 
     public static void main(String[] args) {
         promise3Pipe();
-        promise3PipeNeedsTwoDescriptors();
-        promise3PipeNeedsTwoFiles();
-        promise3PipeLimit();
         promise11Put();
-        promise11PutManyBytes();
         promise11PutWaitsAndBreaks();
-        promise11PutRefuses();
         promise12Take();
         promise12TakeRound();
-        promise12TakeRefuses();
         promise13Ends();
-        promise13EndsRefuses();
         Due.finish();
     }
 
     private static void promise3Pipe() {
         HandleDesk x = new HandleDesk();
-        for (int process : NO_PROCESS) {
-            Due.due("pipe(" + process + ")", x.pipe(process), NONE);
-        }
         Due.due("pipe", x.pipe(0), 0 + 16 * 1);
         Due.due("the first file reads", x.about(0, 0, 6), 0);
         Due.due("the second file writes", x.about(0, 1, 6), 1);
@@ -46,52 +34,6 @@ public final class PipesTest {
         Due.due("a new pipe is the least that is free", x.about(1, 1, 1), 1);
     }
 
-    private static void promise3PipeNeedsTwoDescriptors() {
-        HandleDesk x = new HandleDesk();
-        x.open(0, 2, 1, 1);
-        for (int d = 1; d < 16; d++) {
-            x.again(0, 0);
-        }
-        Due.due("pipe with no descriptor", x.pipe(0), NONE);
-        x.close(0, 9);
-        Due.due("pipe with one descriptor", x.pipe(0), NONE);
-        Due.due("that one stays free", x.about(0, 9, 0), NONE);
-        Due.due("no pipe was made", x.ends(0, 0), NONE);
-        x.close(0, 15);
-        Due.due("pipe with two descriptors", x.pipe(0), 9 + 16 * 15);
-        Due.due("open files of the ends", x.about(0, 15, 6), 2);
-    }
-
-    private static void promise3PipeNeedsTwoFiles() {
-        HandleDesk x = new HandleDesk();
-        for (int i = 0; i < 31; i++) {
-            x.open(i / 8, 2, 1, 1);
-        }
-        Due.due("pipe with 31 files", x.pipe(5), NONE);
-        Due.due("nothing named", x.about(5, 0, 0), NONE);
-        Due.due("no pipe", x.ends(0, 1), NONE);
-        x.close(1, 2);
-        Due.due("pipe with 30 files", x.pipe(5), 16);
-        Due.due("its reading end is file", x.about(5, 0, 6), 10);
-        Due.due("its writing end is file", x.about(5, 1, 6), 31);
-        Due.due("pipe with 32 files", x.pipe(6), NONE);
-    }
-
-    private static void promise3PipeLimit() {
-        HandleDesk x = new HandleDesk();
-        for (int k = 0; k < 8; k++) {
-            Due.due("pipe " + k, x.pipe(k), 16);
-            Due.due("its number", x.about(k, 0, 1), k);
-        }
-        Due.due("a ninth pipe", x.pipe(8), NONE);
-        Due.due("nothing named", x.about(8, 0, 0), NONE);
-        x.close(3, 0);
-        Due.due("a pipe with one end is not gone", x.pipe(8), NONE);
-        x.close(3, 1);
-        Due.due("pipe when one is gone", x.pipe(8), 16);
-        Due.due("it is the one that was gone", x.about(8, 0, 1), 3);
-    }
-
     private static void promise11Put() {
         HandleDesk x = new HandleDesk();
         x.pipe(0);
@@ -103,15 +45,6 @@ public final class PipesTest {
         for (int b : bytes) {
             Due.due("take " + b, x.take(0, 0), b & 255);
         }
-    }
-
-    private static void promise11PutManyBytes() {
-        HandleDesk x = new HandleDesk();
-        x.pipe(0);
-        for (int i = 0; i < 510; i++) {
-            Due.due("put number " + i, x.put(0, 1, i), 0);
-        }
-        Due.due("bytes after 510 puts", x.ends(0, 0), 510);
     }
 
     // A full pipe takes more calls than an object is promised for; the words hold there all the same.
@@ -139,27 +72,6 @@ public final class PipesTest {
         Due.due("put to a broken pipe", y.put(0, 1, 5), HandleDesk.BROKEN);
         Due.due("put to a broken pipe by another name", y.put(1, 1, 5), HandleDesk.BROKEN);
         Due.due("a broken pipe keeps its bytes", y.ends(0, 0), 2);
-    }
-
-    private static void promise11PutRefuses() {
-        HandleDesk x = new HandleDesk();
-        x.pipe(0);
-        x.open(0, 2, 0, 3);
-        x.open(0, 3, 0, 3);
-        Due.due("put to the reading end", x.put(0, 0, 1), NONE);
-        Due.due("put to an inode", x.put(0, 2, 1), NONE);
-        Due.due("put to the console", x.put(0, 3, 1), NONE);
-        Due.due("put to a free one", x.put(0, 4, 1), NONE);
-        for (int process : NO_PROCESS) {
-            Due.due("put(" + process + ", 1, 1)", x.put(process, 1, 1), NONE);
-        }
-        for (int d : NO_DESCRIPTOR) {
-            Due.due("put(0, " + d + ", 1)", x.put(0, d, 1), NONE);
-            Due.due("put(1, " + d + ", 1)", x.put(1, d, 1), NONE);
-        }
-        Due.due("nothing came", x.ends(0, 0), 0);
-        x.close(0, 1);
-        Due.due("put to the reading end of a closed pipe", x.put(0, 0, 1), NONE);
     }
 
     private static void promise12Take() {
@@ -205,26 +117,6 @@ public final class PipesTest {
         }
     }
 
-    private static void promise12TakeRefuses() {
-        HandleDesk x = new HandleDesk();
-        x.pipe(0);
-        x.open(0, 2, 0, 3);
-        x.open(0, 3, 0, 3);
-        x.put(0, 1, 77);
-        Due.due("take from the writing end", x.take(0, 1), NONE);
-        Due.due("take from an inode", x.take(0, 2), NONE);
-        Due.due("take from the console", x.take(0, 3), NONE);
-        Due.due("take from a free one", x.take(0, 4), NONE);
-        for (int process : NO_PROCESS) {
-            Due.due("take(" + process + ", 0)", x.take(process, 0), NONE);
-        }
-        for (int d : NO_DESCRIPTOR) {
-            Due.due("take(0, " + d + ")", x.take(0, d), NONE);
-            Due.due("take(1, " + d + ")", x.take(1, d), NONE);
-        }
-        Due.due("nothing left it", x.ends(0, 0), 1);
-    }
-
     private static void promise13Ends() {
         HandleDesk x = new HandleDesk();
         x.pipe(0);
@@ -253,18 +145,5 @@ public final class PipesTest {
         Due.due("new in its place: bytes", x.ends(0, 0), 0);
         Due.due("new in its place: reading end", x.ends(0, 1), 1);
         Due.due("new in its place: writing end", x.ends(0, 2), 1);
-    }
-
-    private static void promise13EndsRefuses() {
-        HandleDesk x = new HandleDesk();
-        x.pipe(0);
-        for (int what : new int[] {-1, 3, 4, Integer.MIN_VALUE, Integer.MAX_VALUE}) {
-            Due.due("ends what " + what, x.ends(0, what), NONE);
-        }
-        for (int what = 0; what < 3; what++) {
-            for (int k : new int[] {-1, 1, 7, 8, 9, Integer.MIN_VALUE, Integer.MAX_VALUE}) {
-                Due.due("ends(" + k + ", " + what + ")", x.ends(k, what), NONE);
-            }
-        }
     }
 }
