@@ -44,6 +44,7 @@ public final class FaceTest {
         constructors();
         methods();
         fields();
+        classesInside();
         Due.finish();
     }
 
@@ -79,6 +80,21 @@ public final class FaceTest {
             Due.due("static state " + f.getName(), changes, false);
         }
         sameSet("constants", seen, CONSTANTS);
+    }
+
+    private static void classesInside() {
+        Class<?>[] inside = HandleDesk.class.getDeclaredClasses();
+        Due.due("at most twelve classes", inside.length < 12, true);
+        for (Class<?> c : inside) {
+            int how = c.getModifiers();
+            Due.due(c + " can be seen", Modifier.isPublic(how) || Modifier.isProtected(how), false);
+            Due.due(c + " is static", Modifier.isStatic(how), true);
+            Due.due(c + " and its fields", c.getDeclaredFields().length <= 20, true);
+            for (Field f : c.getDeclaredFields()) {
+                boolean changes = Modifier.isStatic(f.getModifiers()) && !Modifier.isFinal(f.getModifiers());
+                Due.due("static state " + f, changes, false);
+            }
+        }
     }
 
     private static void sameSet(String told, Set<String> seen, String[] want) {
